@@ -2023,7 +2023,7 @@ public final class LikeRegistry {
             return true;
         }
 
-        private int pieceHere(char piece) {
+        private int pieceHere(int piece) {
             switch (piece) {
                 case 'p': return text.needName() ? toldOrFault(office.paperNamed(text.name)) : NONE;
                 case 'c': return text.needName() ? toldOrFault(office.clerkNamed(text.name)) : NONE;
@@ -2132,8 +2132,10 @@ public final class LikeRegistry {
                     well = office.isPaper(second) && office.askClerk(first, office.traitsOf[second]) != NONE;
                     found += well ? 1 : 0;
                     break;
-                default:
+                case ANY:
                     well = takeOrFile();
+                    break;
+                default:
                     break;
             }
             if (!well) {
@@ -2196,15 +2198,36 @@ public final class LikeRegistry {
         private final int[] mostLike = new int[MOST_COUPLES + 1];
         private final int[] tried = new int[MOST_PAPERS];
         private final int[] kept = new int[MOST_PAPERS];
+        // Of the latest search: it is the dearest of all, and best() and bestIn() ask for it again and again.
+        private int wide;
+        private final int[] lay = new int[MOST_CELLS];
+        private final int[] alike = new int[MOST_PAPERS * MOST_PAPERS];
 
         void seek(Office inOffice) {
+            if (isAsBefore(inOffice)) {
+                return;
+            }
             office = inOffice;
+            wide = office.wide;
+            System.arraycopy(office.inCell, 0, lay, 0, MOST_CELLS);
+            System.arraycopy(office.alike, 0, alike, 0, MOST_PAPERS * MOST_PAPERS);
             papers = office.lyingSet();
             listCells();
             addUpLikest();
             // How it lies now is one of the ways, so less than that is never kept.
             total = office.wholeLikeness() - 1;
             layFrom(0, papers, 0);
+        }
+
+        private boolean isAsBefore(Office other) {
+            boolean same = wide == other.wide;
+            for (int cell = 0; cell < MOST_CELLS && same; cell++) {
+                same = lay[cell] == other.inCell[cell];
+            }
+            for (int couple = 0; couple < MOST_PAPERS * MOST_PAPERS && same; couple++) {
+                same = alike[couple] == other.alike[couple];
+            }
+            return same;
         }
 
         int paperFor(int cell) {
@@ -2273,19 +2296,25 @@ public final class LikeRegistry {
                 System.arraycopy(tried, 0, kept, 0, MOST_PAPERS);
                 return;
             }
+            int reachable = mostLike[couplesFrom[k + 1]];
+            int upper = above[k];
+            int former = aside[k];
             for (int paper = 0; paper < MOST_PAPERS; paper++) {
-                if ((left >> paper & 1) != 0) {
-                    int grown = sum + likeTried(paper, above[k]) + likeTried(paper, aside[k]);
-                    if (grown + mostLike[couplesFrom[k + 1]] > total) {
-                        tried[k] = paper;
-                        layFrom(k + 1, left & ~(1 << paper), grown);
-                    }
+                if ((left >> paper & 1) == 0) {
+                    continue;
+                }
+                int grown = sum;
+                if (upper >= 0 && upper < k) {
+                    grown += alike[paper * MOST_PAPERS + tried[upper]];
+                }
+                if (former >= 0 && former < k) {
+                    grown += alike[paper * MOST_PAPERS + tried[former]];
+                }
+                if (grown + reachable > total) {
+                    tried[k] = paper;
+                    layFrom(k + 1, left & ~(1 << paper), grown);
                 }
             }
-        }
-
-        private int likeTried(int paper, int rank) {
-            return rank >= 0 && rank < MOST_PAPERS ? office.likeOf(paper, tried[rank]) : 0;
         }
     }
 

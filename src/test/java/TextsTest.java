@@ -94,6 +94,14 @@ public final class TextsTest {
             Due.registryFault("mark " + word + ";", 2, 5);
             Due.registryFault("clerk " + word + ";", 2, 6);
         }
+        // The first fault stays, whatever comes behind it.
+        Due.registryFault("lies;near near", 2, 4);
+        Due.registryFault("paper;near near", 2, 5);
+        Due.registryFault("mark m weighs;near near", 2, 13);
+        Due.registryFault("clerk c at;near near", 2, 10);
+        Due.registryFault("floor;near near", 2, 5);
+        Due.registryFault("odds;near near", 2, 4);
+        Due.registryFault("near;near near", 2, 4);
         Due.registryFault("paper p;mark p weighs 1;", 3, 13);
         Due.registryFault("paper p;clerk p at 1;", 3, 14);
         Due.registryFault("clerk p at 1;paper p;", 3, 19);
@@ -113,18 +121,29 @@ public final class TextsTest {
         Due.registryFault("floor 2 by 2;clerk c at 4;", 4, 24);
         Due.registryFault("floor 2 by 2;paper p;lies p at 4;", 4, 31);
         Due.registryFault("floor 3 by 0;", 4, 11);
+        Due.registryFault("floor 6 by 1;", 4, 6);
+        Due.registryFault("floor 0 by 1;", 4, 6);
+        Due.registryFault("floor 1 by 5;", 4, 11);
+        Due.registryFault("near 0;", 4, 5);
+        Due.registryFault("near 100;", 4, 5);
+        Due.registryFault("mark m weighs 0;", 4, 14);
+        Due.registryFault("mark m weighs 10;", 4, 14);
         Due.registryFault("odds 17;", 4, 5);
         Due.registryFault("near 9999;", 4, 5);
         LikeRegistry x = Due.with("floor 1 by 1;clerk c at 0;clerk d at 0;odds 16;near 1;");
         Due.fine(x, "one cell", x.told(8), 1);
         x = Due.with("floor 5 by 4;clerk c at 19;");
         Due.fine(x, "the last cell", x.clerk(0), 19);
-        // Eight of each are fine, four clerks.
-        x = Due.with("mark a weighs 1;mark b weighs 2;mark c weighs 3;mark d weighs 4;mark e weighs 5;"
+        String all = "mark a weighs 1;mark b weighs 2;mark c weighs 3;mark d weighs 4;mark e weighs 5;"
             + "mark f weighs 6;mark g weighs 7;mark h weighs 8;paper i a b c d e f g h;paper j;paper k;paper l;"
-            + "paper m;paper n;paper o;paper p;clerk q at 0;clerk r at 0;clerk s at 0;clerk t at 0;");
+            + "paper m;paper n;paper o;paper p;clerk q at 0;clerk r at 0;clerk s at 0;clerk t at 0;";
+        x = Due.with(all);
         Due.fine(x, "all traits", x.traits(0), 255);
         Due.fine(x, "papers", x.told(1), 8);
+        Due.fine(x, "clerks", x.told(2), 4);
+        Due.registryFault(all + "mark a", 6, all.length());
+        Due.registryFault(all + " paper a", 6, all.length() + 1);
+        Due.registryFault(all + "clerk", 6, all.length());
     }
 
     private static void tapeAndFault() {

@@ -154,6 +154,14 @@ public final class LieTest {
         Due.refused(y, "missing", y.weighed(0, 20), 2);
         x.tray(0, 3, 60);
         Due.fine(x, "twenty threes", x.weighed(0, 20), 27);
+        for (int k = 0; k < 60; k++) {
+            x.write(0, k, k % 3);
+        }
+        Due.fine(x, "twenty times a no less than b", x.weighed(0, 20), 18);
+        x.write(0, 58, 2);
+        x.write(0, 59, 1);
+        Due.fine(x, "the twentieth counts, too", x.weighed(0, 20), 9);
+        Due.fine(x, "nineteen", x.weighed(0, 19), 18);
         x.write(0, 0, 1L << 32);
         Due.refused(x, "no paper, though its lower half is one", x.weighed(0, 1), 5);
     }

@@ -111,6 +111,9 @@ public final class TextsTest {
         Due.registryFault("clerk c at 0;lies c at 0;", 3, 18);
         Due.registryFault("paper p m;mark m weighs 1;", 3, 8);
         Due.registryFault("odds 1;odds 2;", 5, 7);
+        Due.registryFault("near 1;near 2;", 5, 7);
+        Due.registryFault("floor 2 by 2;floor", 5, 13);
+        Due.registryFault("clerk c at 0;floor", 5, 13);
         Due.registryFault("paper p;lies p at 0;floor 1 by 1;", 5, 20);
         Due.registryFault("paper p;paper q;lies p at 0;lies q at 0;", 5, 38);
         Due.registryFault("paper p;lies p at 0;lies p at 0;", 5, 25);

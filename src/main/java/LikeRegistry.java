@@ -399,7 +399,9 @@ public final class LikeRegistry {
             return refuse(TOO_MANY);
         }
         int paper = now.addPaper(Text.NO_NAME);
-        now.traitsOf[paper] = traits;
+        if (now.isPaper(paper)) {
+            now.traitsOf[paper] = traits;
+        }
         now.compareAll();
         return answer(paper);
     }
@@ -751,7 +753,7 @@ public final class LikeRegistry {
             return refuse(NO_PLACE);
         }
         for (int cell = 0; cell < cells; cell++) {
-            trays[tray].put(cell, now.inCell[cell]);
+            trays[tray].put(cell, now.paperAt(now.inCell, cell));
         }
         return answer(cells);
     }
@@ -938,7 +940,7 @@ public final class LikeRegistry {
         }
 
         boolean reaches(int from, int length) {
-            return (long) from + length <= many;
+            return from >= 0 && length >= 0 && (long) from + length <= Math.min(many, MOST_NUMBERS);
         }
 
         long numberAt(int at) {
@@ -1023,12 +1025,12 @@ public final class LikeRegistry {
         }
 
         void layFloor(int newWide, int newHigh) {
-            wide = newWide;
-            high = newHigh;
+            wide = Math.max(1, Math.min(newWide, MOST_WIDE));
+            high = Math.max(1, Math.min(newHigh, MOST_HIGH));
             cells = wide * high;
             Arrays.fill(atSide, NONE);
-            for (int row = 0; row < high && row < MOST_HIGH; row++) {
-                for (int column = 0; column < wide && column < MOST_WIDE; column++) {
+            for (int row = 0; row < high; row++) {
+                for (int column = 0; column < wide; column++) {
                     int cell = row * wide + column;
                     // By growing numbers, so that the first of several is met first.
                     atSide[cell * SIDES] = row > 0 ? cell - wide : NONE;
@@ -1135,7 +1137,7 @@ public final class LikeRegistry {
 
         int emptyCells() {
             int set = 0;
-            for (int cell = 0; cell < cells; cell++) {
+            for (int cell = 0; cell < cells && cell < MOST_CELLS; cell++) {
                 if (inCell[cell] == NONE) {
                     set |= 1 << cell;
                 }
@@ -1145,7 +1147,7 @@ public final class LikeRegistry {
 
         int papersWith(int trait) {
             int set = 0;
-            for (int paper = 0; paper < paperCount; paper++) {
+            for (int paper = 0; paper < paperCount && paper < MOST_PAPERS; paper++) {
                 set |= (traitsOf[paper] >> trait & 1) << paper;
             }
             return set;
@@ -1163,7 +1165,9 @@ public final class LikeRegistry {
                 return NONE;
             }
             int cell = place[paper];
-            inCell[cell] = NONE;
+            if (isCell(cell)) {
+                inCell[cell] = NONE;
+            }
             place[paper] = NONE;
             return cell;
         }
@@ -1193,11 +1197,11 @@ public final class LikeRegistry {
         int layByNumber() {
             int left = lyingSet();
             int moved = 0;
-            for (int cell = 0; cell < cells; cell++) {
+            for (int cell = 0; cell < cells && cell < MOST_CELLS; cell++) {
                 if (inCell[cell] != NONE && left != 0) {
                     int paper = Integer.numberOfTrailingZeros(left);
                     left &= left - 1;
-                    if (place[paper] != cell) {
+                    if (isPaper(paper) && place[paper] != cell) {
                         moved++;
                     }
                     putInto(paper, cell);
@@ -1252,14 +1256,14 @@ public final class LikeRegistry {
 
         // Likeness of a paper to what would be beside it in a cell, but for what lies in one cell.
         int kinAround(int[] lay, int cell, int but, int paper) {
-            if (cell < 0 || cell >= cells || paper < 0 || paper >= paperCount) {
+            if (cell < 0 || cell >= MOST_CELLS || paper < 0 || paper >= MOST_PAPERS) {
                 return 0;
             }
             int sum = 0;
             for (int side = 0; side < SIDES; side++) {
                 int next = atSide[cell * SIDES + side];
-                int other = next < 0 || next == but ? NONE : lay[next];
-                if (other != NONE) {
+                int other = next < 0 || next >= lay.length || next == but ? NONE : lay[next];
+                if (other >= 0 && other < MOST_PAPERS) {
                     sum += alike[paper * MOST_PAPERS + other];
                 }
             }
@@ -1268,7 +1272,7 @@ public final class LikeRegistry {
 
         int wholeLikeness() {
             int sum = 0;
-            for (int cell = 0; cell < cells; cell++) {
+            for (int cell = 0; cell < cells && cell < MOST_CELLS; cell++) {
                 // Right and below alone, so that each couple counts once.
                 sum += likeOf(inCell[cell], paperAt(inCell, sideOf(cell, 2)));
                 sum += likeOf(inCell[cell], paperAt(inCell, sideOf(cell, 3)));
@@ -1291,7 +1295,7 @@ public final class LikeRegistry {
             int found = NONE;
             int greatest = NONE;
             int own = isPaper(paper) ? place[paper] : NONE;
-            for (int cell = 0; cell < cells; cell++) {
+            for (int cell = 0; cell < cells && cell < MOST_CELLS; cell++) {
                 if (inCell[cell] == NONE) {
                     int kin = kinAround(inCell, cell, own, paper);
                     if (kin > greatest) {
@@ -1327,7 +1331,7 @@ public final class LikeRegistry {
         private void spreadSmells(int set) {
             for (int cell = 0; cell < cells && cell < MOST_CELLS; cell++) {
                 int paper = inCell[cell];
-                smells[cell] = paper == NONE ? 0 : weightsOf(traitsOf[paper] & set);
+                smells[cell] = paper >= 0 && paper < MOST_PAPERS ? weightsOf(traitsOf[paper] & set) : 0;
             }
         }
 
@@ -1339,7 +1343,7 @@ public final class LikeRegistry {
             int greatest = smells[cell];
             for (int side = 0; side < SIDES; side++) {
                 int next = atSide[cell * SIDES + side];
-                if (next != NONE && smells[next] > greatest) {
+                if (next >= 0 && next < MOST_CELLS && smells[next] > greatest) {
                     greatest = smells[next];
                     found = next;
                 }
@@ -1467,7 +1471,7 @@ public final class LikeRegistry {
 
         private int cellOfRank(int rank) {
             int left = rank;
-            for (int cell = 0; cell < cells; cell++) {
+            for (int cell = 0; cell < cells && cell < MOST_CELLS; cell++) {
                 if (inCell[cell] != NONE) {
                     if (left == 0) {
                         return cell;
@@ -1587,7 +1591,7 @@ public final class LikeRegistry {
 
         // The tape is empty from here on; its bytes stay until they are fed over.
         void open(int n) {
-            length = Math.max(0, Math.min(n, taped));
+            length = Math.max(0, Math.min(n, Math.min(taped, MOST_TAPE)));
             taped = 0;
             at = 0;
             fault = 0;
@@ -1939,7 +1943,10 @@ public final class LikeRegistry {
             }
             text.advance();
             within--;
-            days.behind[open[within]] = days.many;
+            int opened = open[within];
+            if (opened >= 0 && opened < MOST_STEPS) {
+                days.behind[opened] = days.many;
+            }
             return text.passEnd();
         }
 
@@ -2003,6 +2010,9 @@ public final class LikeRegistry {
 
         private boolean readPieces(int kind, String pieces) {
             int step = days.many;
+            if (step < 0 || step >= MOST_STEPS) {
+                return text.fail(ONE_TOO_MANY);
+            }
             days.many++;
             days.kind[step] = kind;
             days.first[step] = NONE;
@@ -2231,7 +2241,7 @@ public final class LikeRegistry {
         }
 
         int paperFor(int cell) {
-            for (int k = 0; k < many; k++) {
+            for (int k = 0; k < many && k < MOST_PAPERS; k++) {
                 if (cells[k] == cell) {
                     return kept[k];
                 }
@@ -2241,7 +2251,7 @@ public final class LikeRegistry {
 
         private void listCells() {
             many = 0;
-            for (int cell = 0; cell < office.cells && many < MOST_PAPERS; cell++) {
+            for (int cell = 0; cell < office.cells && cell < MOST_CELLS && many < MOST_PAPERS; cell++) {
                 if (office.inCell[cell] != NONE) {
                     cells[many] = cell;
                     above[many] = rankOf(office.sideOf(cell, 0));
@@ -2256,7 +2266,7 @@ public final class LikeRegistry {
         }
 
         private int rankOf(int cell) {
-            for (int k = 0; k < many && cell != NONE; k++) {
+            for (int k = 0; k < many && k < MOST_PAPERS && cell != NONE; k++) {
                 if (cells[k] == cell) {
                     return k;
                 }
@@ -2282,7 +2292,7 @@ public final class LikeRegistry {
         }
 
         private void putInOrder(int v, int last) {
-            int at = last;
+            int at = Math.max(1, Math.min(last, MOST_COUPLES));
             while (at > 1 && mostLike[at - 1] < v) {
                 mostLike[at] = mostLike[at - 1];
                 at--;
@@ -2290,26 +2300,30 @@ public final class LikeRegistry {
             mostLike[at] = v;
         }
 
+        private int mostFrom(int k) {
+            int couples = k >= 0 && k <= MOST_PAPERS ? couplesFrom[k] : 0;
+            return mostLike[Math.max(0, Math.min(couples, MOST_COUPLES))];
+        }
+
+        // To what is tried in a cell ahead; 0 where there is none.
+        private int likeToTried(int paper, int rank) {
+            int other = rank >= 0 && rank < MOST_PAPERS ? tried[rank] : NONE;
+            boolean both = paper >= 0 && paper < MOST_PAPERS && other >= 0 && other < MOST_PAPERS;
+            return both ? alike[paper * MOST_PAPERS + other] : 0;
+        }
+
         private void layFrom(int k, int left, int sum) {
-            if (k >= many || k >= MOST_PAPERS) {
+            if (k < 0 || k >= many || k >= MOST_PAPERS) {
                 total = sum;
                 System.arraycopy(tried, 0, kept, 0, MOST_PAPERS);
                 return;
             }
-            int reachable = mostLike[couplesFrom[k + 1]];
-            int upper = above[k];
-            int former = aside[k];
+            int reachable = mostFrom(k + 1);
             for (int paper = 0; paper < MOST_PAPERS; paper++) {
                 if ((left >> paper & 1) == 0) {
                     continue;
                 }
-                int grown = sum;
-                if (upper >= 0 && upper < k) {
-                    grown += alike[paper * MOST_PAPERS + tried[upper]];
-                }
-                if (former >= 0 && former < k) {
-                    grown += alike[paper * MOST_PAPERS + tried[former]];
-                }
+                int grown = sum + likeToTried(paper, above[k]) + likeToTried(paper, aside[k]);
                 if (grown + reachable > total) {
                     tried[k] = paper;
                     layFrom(k + 1, left & ~(1 << paper), grown);

@@ -20,7 +20,28 @@ public final class RoomTest {
         long made = allocatedBy(x);
         System.out.println("512 calls: " + made + " bytes");
         Due.is("calls make next to nothing", made < 512 * 64, true);
+        lastOfAllCalls();
         Due.end("RoomTest");
+    }
+
+    /** "What it is": an object is used for at most 512 calls: the 512th is as good as the first. */
+    private static void lastOfAllCalls() {
+        LikeRegistry x = new LikeRegistry();
+        for (int k = 0; k < 101; k++) {
+            // paper p; file p;
+            x.feed(0x70617065, 0x7220703B, 0x66696C65, 0x20703B20, 0x20202020);
+            Due.is("registry", x.registry(8), 1);
+            x.feed(0x66696C65, 0x20703B20, 0x20202020, 0x20202020, 0x20202020);
+            Due.is("days", x.days(20), 1);
+            Due.is("live", x.live(k), 1);
+        }
+        for (int k = 505; k < 508; k++) {
+            Due.is("mark", x.mark(), k - 504);
+        }
+        Due.is("take", x.take(0), 0);
+        Due.is("mark", x.mark(), -1);
+        Due.is("undo", x.undo(), 2);
+        Due.is("the 512th: it lies again", x.told(7), 1);
     }
 
     private static void count(Object o) throws IllegalAccessException {
